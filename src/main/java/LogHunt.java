@@ -134,13 +134,13 @@ public final class LogHunt {
 
     public int ask(int hunter) throws IndexOutOfBoundsException, IllegalArgumentException,
             IllegalStateException, UnsupportedOperationException {
-        int wrong = reader.firstWrongByte(draft);
+        boolean isRight = reader.reads(draft);
         tape.length = 0;
         if (!isBelow(hunter, HUNTERS)) {
             throw new IndexOutOfBoundsException("no such hunter");
         }
-        firstWrong = wrong;
-        if (wrong != NONE) {
+        firstWrong = isRight ? NONE : reader.begin;
+        if (!isRight) {
             throw new IllegalArgumentException("the text is wrong");
         }
         if ((draft.fieldBits & ~hunterFields[hunter]) != 0) {
@@ -239,7 +239,9 @@ public final class LogHunt {
             case 4: return exemptTold;
             case 5: return widestGap;
             case 6: return log.late;
-            case 7: return findsOfAll();
+            case 7:
+                joinFinds();
+                return joins.findCount;
             default: return NONE;
         }
     }
@@ -273,11 +275,6 @@ public final class LogHunt {
         return last != null && isBelow(question, MOST_QUESTIONS) && exemptUntil[question][last.who] >= last.tick;
     }
 
-    private int findsOfAll() {
-        joinFinds();
-        return joins.findCount;
-    }
-
     private void joinFinds() {
         // Callers ask about one find after another: what was joined holds until a call changes something.
         if (changesJoined == changes) {
@@ -285,18 +282,21 @@ public final class LogHunt {
         }
         joins.clear();
         for (int q = 0; q < questionCount; q++) {
-            gatherFinds(q);
+            gatherFinds(questions[q], q);
         }
         joins.join(widestGap);
         changesJoined = changes;
     }
 
-    private void gatherFinds(int question) {
-        Sweep swept = sweepOf(question, now);
-        for (int n = 0; n < swept.findCount; n++) {
-            Act last = swept.findAt(n);
+    private void gatherFinds(Question asked, int number) {
+        if (asked == null) {
+            return;
+        }
+        sweep.goOver(asked, number, now);
+        for (int n = 0; n < sweep.findCount; n++) {
+            Act last = sweep.findAt(n);
             if (last != null) {
-                joins.add(last, isExempt(question, last));
+                joins.add(last, isExempt(number, last));
             }
         }
     }
@@ -510,9 +510,9 @@ public final class LogHunt {
 
         private final Tape tape;
         private int sort;
+        /** Where the word, NUMBER or sign at hand begins: the first wrong byte, once reading stops. */
         private int begin;
         private int behind;
-        private int number;
         /** Since the last STEP without not there was one with not, and within. */
         private boolean boundNot;
         /** Since the last STEP without not there was one with not, and no within. */
@@ -522,30 +522,11 @@ public final class LogHunt {
             this.tape = tape;
         }
 
-        int firstWrongByte(Question q) {
-            q.clear();
-            boundNot = false;
-            looseNot = false;
-            behind = 0;
-            advance();
-            return readsBy(q) && readsParts(q) ? NONE : begin;
-        }
-
-        private boolean readsBy(Question q) {
-            if (!isAt("by")) {
+        /** Whether the whole TAPE is right; the sign ahead of a part tells that more comes. */
+        boolean reads(Question q) {
+            if (!readsBy(q)) {
                 return false;
             }
-            advance();
-            q.by = fieldHere();
-            if (q.by == NONE) {
-                return false;
-            }
-            q.note(q.by);
-            advance();
-            return true;
-        }
-
-        private boolean readsParts(Question q) {
             for (int n = 0; n <= MOST_STEPS; n++) {
                 if (n > 0 && sort == END) {
                     return !looseNot;
@@ -560,9 +541,7 @@ public final class LogHunt {
                 }
                 if (n == MOST_STEPS) {
                     // Only a STEP makes the sign ahead of it wrong; another word is wrong by itself.
-                    if (isAt("kind") || isAt("not")) {
-                        begin = semicolon;
-                    }
+                    begin = isAt("kind") || isAt("not") ? semicolon : begin;
                     return false;
                 }
                 if (!readsStep(q, n == 0)) {
@@ -570,6 +549,25 @@ public final class LogHunt {
                 }
             }
             return false;
+        }
+
+        private boolean readsBy(Question q) {
+            q.clear();
+            boundNot = false;
+            looseNot = false;
+            behind = 0;
+            advance();
+            if (!isAt("by")) {
+                return false;
+            }
+            advance();
+            q.by = fieldHere();
+            if (q.by == NONE) {
+                return false;
+            }
+            q.note(q.by);
+            advance();
+            return true;
         }
 
         private boolean readsStep(Question q, boolean opening) {
@@ -663,7 +661,14 @@ public final class LogHunt {
         }
 
         private int numberHere(int least, int most) {
-            return sort == NUMBER && number >= least && number <= most ? number : NONE;
+            if (sort != NUMBER || behind - begin > MOST_DIGITS) {
+                return NONE;
+            }
+            int value = 0;
+            for (int at = begin; at < behind && at < tape.length; at++) {
+                value = value * 10 + tape.bytes[at] - '0';
+            }
+            return value >= least && value <= most ? value : NONE;
         }
 
         private boolean isAt(String word) {
@@ -671,8 +676,8 @@ public final class LogHunt {
             if (sort != WORD || behind - begin != length) {
                 return false;
             }
-            for (int i = 0; i < length; i++) {
-                if (byteAt(begin + i) != word.charAt(i)) {
+            for (int i = 0; i < length && begin + i < tape.length; i++) {
+                if (tape.bytes[begin + i] != word.charAt(i)) {
                     return false;
                 }
             }
@@ -681,54 +686,30 @@ public final class LogHunt {
 
         private void advance() {
             int at = behind;
-            for (; at < tape.length && byteAt(at) == ' '; at++) {
+            for (; at < tape.length && tape.bytes[at] == ' '; at++) {
                 continue;
             }
             begin = at;
-            if (at >= tape.length) {
-                sort = END;
-                behind = at;
-            } else if (isLetter(at)) {
-                sort = WORD;
-                passWord();
-            } else if (isDigit(at)) {
-                sort = NUMBER;
-                passNumber();
-            } else {
-                sort = byteAt(at) == ';' ? SEMICOLON : OTHER;
-                behind = at + 1;
-            }
-        }
-
-        private void passWord() {
-            int at = begin;
-            for (; at < tape.length && isLetter(at); at++) {
+            sort = sortAt(at);
+            boolean goesOn = sort == WORD || sort == NUMBER;
+            for (at++; goesOn && at < tape.length && sortAt(at) == sort; at++) {
                 continue;
             }
-            behind = at;
+            behind = Math.min(at, tape.length);
         }
 
-        private void passNumber() {
-            int at = begin;
-            int value = 0;
-            for (; at < tape.length && isDigit(at); at++) {
-                // Past six digits the value is thrown away, so it need not grow beyond an int.
-                value = at - begin < MOST_DIGITS ? value * 10 + byteAt(at) - '0' : NONE;
+        private int sortAt(int at) {
+            if (at < 0 || at >= tape.length) {
+                return END;
             }
-            number = value;
-            behind = at;
-        }
-
-        private boolean isLetter(int at) {
-            return byteAt(at) >= 'a' && byteAt(at) <= 'z';
-        }
-
-        private boolean isDigit(int at) {
-            return byteAt(at) >= '0' && byteAt(at) <= '9';
-        }
-
-        private int byteAt(int at) {
-            return at >= 0 && at < tape.length && at < MOST_BYTES ? tape.bytes[at] : NONE;
+            int sign = tape.bytes[at];
+            if (sign >= 'a' && sign <= 'z') {
+                return WORD;
+            }
+            if (sign >= '0' && sign <= '9') {
+                return NUMBER;
+            }
+            return sign == ';' ? SEMICOLON : OTHER;
         }
     }
 
@@ -768,6 +749,7 @@ public final class LogHunt {
             this.log = log;
         }
 
+        /** ACTS of one TICK are settled together, behind the last of them: none may count as before another. */
         void goOver(Question asked, int number, int tick) {
             // A QUESTION never changes, nor does an ACT: these three settle all answers.
             if (number == questionNumber && tick == asKnownAt && log.size == sizeSwept) {
@@ -779,7 +761,18 @@ public final class LogHunt {
             sizeSwept = log.size;
             known = log.knownAt(tick);
             clear();
-            sweepForward();
+            int start = 0;
+            for (int i = 0; i < log.size; i++) {
+                Act a = log.byTick[i];
+                if (a.tick > log.byTick[start].tick) {
+                    settle(start, i);
+                    start = i;
+                }
+                if (a.number < known) {
+                    reach(a);
+                }
+            }
+            settle(start, log.size);
             dropDisturbed();
         }
 
@@ -796,22 +789,6 @@ public final class LogHunt {
             for (int v = 0; v < VALUES; v++) {
                 Arrays.fill(spreadTick[v], LONG_AGO);
             }
-        }
-
-        /** ACTS of one TICK are settled together, behind the last of them: none may count as before another. */
-        private void sweepForward() {
-            int start = 0;
-            for (int i = 0; i < log.size; i++) {
-                Act a = log.byTick[i];
-                if (a.tick > log.byTick[start].tick) {
-                    settle(start, i);
-                    start = i;
-                }
-                if (a.number < known) {
-                    reach(a);
-                }
-            }
-            settle(start, log.size);
         }
 
         private void reach(Act a) {
@@ -874,20 +851,20 @@ public final class LogHunt {
 
         private void settleEnd(Act a) {
             int last = question.rowLength - 1;
-            if (last >= 0 && before[last][a.number] != UNREACHED && isSpread(a) && findCount < MOST_ACTS) {
+            boolean endsRow = last >= 0 && before[last][a.number] != UNREACHED;
+            if (endsRow && isSpread(a.tick, a.valueIn(question.by)) && findCount < MOST_ACTS) {
                 ends[findCount] = a;
                 findCount++;
             }
         }
 
-        private boolean isSpread(Act a) {
+        private boolean isSpread(int tick, int value) {
             if (question.spreadField == NONE) {
                 return true;
             }
-            int[] ticks = spreadTick[a.valueIn(question.by)];
             int unlike = 0;
             for (int v = 0; v < VALUES; v++) {
-                if (ticks[v] > a.tick - question.spreadWithin) {
+                if (spreadTick[value][v] > tick - question.spreadWithin) {
                     unlike++;
                 }
             }
