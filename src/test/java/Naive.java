@@ -279,8 +279,9 @@ final class Naive {
             return;
         }
         for (Act a : known) {
-            // only what keeps the trying short: the greater TICK
+            // only what keeps the trying short: the greater TICK, and one value of by
             if (!row.isEmpty() && a.tick <= row.get(row.size() - 1).tick) continue;
+            if (!row.isEmpty() && a.in(q.by) != row.get(0).in(q.by)) continue;
             if (!fits(a, plain.get(row.size()), known)) continue;
             row.add(a);
             collect(q, plain, known, row, rows, tick);

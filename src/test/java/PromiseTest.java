@@ -33,6 +33,7 @@ public final class PromiseTest {
         spared();
         gap();
         cases();
+        throwsChangeNothing();
         joined();
         cost();
         widest();
@@ -272,6 +273,16 @@ public final class PromiseTest {
         due("8: the next has nothing of it", 0, () -> Check.ask(y, "by who;kind 1"));
         due("8: one step alone", 1, () -> y.finds(0, 9));
         due("8: one act in the row", -1, () -> y.proof(0, 9, 0, 1));
+        y.act(1, 1, 1, 2, 7);
+        String[] wrong = {"by what;kind 1 who 3 what 3 where 3 first;not kind 2 within 3 x",
+            "by who;kind 1;kind 1;kind 1;kind 1;kind 1;kind 1 x", "by who;kind 1;spread where 9 within 9 x",
+            "by who;kind 1;not kind 2;not kind 1 within 99 x", "by who;kind 1 first x", ""};
+        for (String text : wrong) {
+            Check.lay(y, text);
+            due("8: wrong: " + text, ARGUMENT, () -> y.ask(0));
+            int q = Check.ask(y, "by who;kind 1");
+            due("8: nothing is left of " + text, 2, () -> y.finds(q, 9));
+        }
     }
 
     private static void fault() {
@@ -543,6 +554,11 @@ public final class PromiseTest {
         due("14: before they are known", 0, () -> x.spared(0, 49));
         due("14: below 0", 0, () -> x.spared(0, -1));
         due("14: no question", BOUNDS, () -> x.spared(2, 50));
+        LogHunt y = with(5, new int[][] {{1, 0, 0, 0, 0}});
+        Check.ask(y, "by who;kind 1");
+        due("14: at tick 0, none is told", 0, () -> y.spared(0, 5));
+        y.exempt(0, 0, 0);
+        due("14: at tick 0", 1, () -> y.spared(0, 5));
     }
 
     private static void gap() {
@@ -578,6 +594,63 @@ public final class PromiseTest {
         due("16: a new act", 4, x::cases);
         Check.ask(x, "by who;kind 1;not kind 2 within 5");
         due("16: NOW alone counts", 4, x::cases);
+        x.act(1, 10, 9, 10, 1000);
+        due("16: an act at the same tick", 5, x::cases);
+        x.exempt(0, 10, 1000);
+        due("16: exempt by one question alone", 5, x::cases);
+        x.exempt(2, 10, 1000);
+        due("16: exempt by both", 4, x::cases);
+        x.ticks(4);
+        due("16: 8, 2, and without the one told last 7", 17, () -> x.count(7));
+        x.ticks(1);
+        due("16: with that one", 18, () -> x.count(7));
+        Check.ask(x, "by who;kind 1 who 10");
+        due("16: a question more", 5, x::cases);
+    }
+
+    private static int[] state(LogHunt x) {
+        int[] s = new int[60];
+        int n = 0;
+        for (int what = 0; what < 8; what++) s[n++] = x.count(what);
+        s[n++] = x.cases();
+        s[n++] = x.fault();
+        for (int act = 0; act < 3; act++) for (int what = 0; what < 7; what++) s[n++] = x.look(act, what);
+        for (int q = 0; q < 2; q++) {
+            s[n++] = x.finds(q, 50);
+            s[n++] = x.spared(q, 50);
+            s[n++] = x.cost(q, 50);
+            s[n++] = x.widest(q, 50);
+            for (int act = 0; act < 3; act++) s[n++] = x.joined(q, act);
+        }
+        return s;
+    }
+
+    private static void throwsChangeNothing() {
+        LogHunt x = with(50, new int[][] {{1, 1, 1, 1, 10}, {1, 1, 2, 1, 20}, {2, 1, 2, 2, 30}});
+        Check.ask(x, "by who;kind 1");
+        Check.ask(x, "by who;kind 1;kind 2");
+        x.exempt(0, 1, 10);
+        x.may(3, 4);
+        x.feed(1, 2, 3, 4, 5);
+        String before = java.util.Arrays.toString(state(x));
+        Check.Call[] calls = {() -> x.ticks(-1), () -> x.ticks(100001), () -> x.act(8, 0, 0, 0, 0),
+            () -> x.act(1, 1, 1, 1, 51), () -> x.look(3, 0), () -> x.look(0, 7), () -> { x.may(4, 0); return 0; },
+            () -> { x.may(0, 8); return 0; }, () -> x.finds(2, 50), () -> x.found(-1, 50, 0), () -> x.proof(2, 50, 0, 0),
+            () -> x.exempt(2, 1, 50), () -> x.exempt(0, 31, 50), () -> x.exempt(0, 1, 1000001), () -> x.spared(9, 50),
+            () -> { x.gap(100001); return 0; }, () -> x.joined(2, 0), () -> x.joined(0, 3), () -> x.cost(2, 50),
+            () -> x.widest(-1, 50)};
+        for (int i = 0; i < calls.length; i++) {
+            int n = i;
+            due("throws: call " + i, true, () -> Check.answer(calls[n]).toString().startsWith("throws."));
+            due("throws: nothing changed by call " + i, before, () -> java.util.Arrays.toString(state(x)));
+        }
+        due("throws: nor the tape", 40, () -> x.feed(1, 2, 3, 4, 5));
+        due("throws: no hunter", BOUNDS, () -> x.ask(-1));
+        due("throws: the tape is used up", 20, () -> x.feed(1, 2, 3, 4, 5));
+        due("throws: nothing else", before, () -> java.util.Arrays.toString(state(x)));
+        Check.lay(x, "by who;kind 1");
+        due("throws: may not", STATE, () -> x.ask(3));
+        due("throws: nothing else by that", before, () -> java.util.Arrays.toString(state(x)));
     }
 
     private static void joined() {

@@ -8,25 +8,28 @@ public final class RandomRunsTest {
     private final LogHunt hunt = new LogHunt();
     private final Naive naive = new Naive();
     private final int run;
-    private final int kinds, people, things, places, span, mostActs;
+    private final int kinds, people, things, places, span, mostActs, calls;
     private final StringBuilder story = new StringBuilder();
 
     private RandomRunsTest(int run) {
         this.run = run;
         dice = new Random(run * 7919L + 13);
-        kinds = 1 + dice.nextInt(4);
-        people = 1 + dice.nextInt(4);
-        things = 1 + dice.nextInt(4);
-        places = 1 + dice.nextInt(4);
+        // now and then many acts, of so many sorts that the naive one still ends
+        boolean large = run % 20 == 19;
+        kinds = large ? 8 : 1 + dice.nextInt(4);
+        people = large ? 10 + dice.nextInt(21) : 1 + dice.nextInt(4);
+        things = large ? 10 + dice.nextInt(21) : 1 + dice.nextInt(4);
+        places = large ? 6 + dice.nextInt(10) : 1 + dice.nextInt(4);
         span = 1 + dice.nextInt(dice.nextBoolean() ? 8 : 60);
-        mostActs = dice.nextInt(4) == 0 ? 40 : 16;
+        mostActs = large ? 250 : dice.nextInt(4) == 0 ? 40 : 16;
+        calls = large ? 1100 : 300;
     }
 
     public static void main(String[] args) {
         int runs = args.length > 0 ? Integer.parseInt(args[0]) : 1500;
         for (int run = 0; run < runs && Check.isAllRight(); run++) {
             RandomRunsTest one = new RandomRunsTest(run);
-            for (int i = 0; i < 300 && Check.isAllRight(); i++) one.call();
+            for (int i = 0; i < one.calls && Check.isAllRight(); i++) one.call();
             if (!Check.isAllRight()) System.out.println(one.story);
         }
         Check.close("RandomRunsTest");

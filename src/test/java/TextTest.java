@@ -10,6 +10,7 @@ public final class TextTest {
         "^", "   ^", "^b", "^bye who", "^BY who", "^1", "^;", "^\tby who;kind 1", "by ^\u0000",
         "by^", "by ^", "by  ^kind", "by ^whos", "by ^whowhat", "^bywho", "by ^1", "by ^;kind 1", "by ^by",
         "by who^", "by who  ^", "by who ^who", "by who ^kind 1", "by who ^1", "by who^,", "by who^\u00e9",
+        "by ^whoz;kind 1", "by who^{", "by who^`", "by who;kind 1^/", "by who;kind 1^:", "by who^Z", "by who^\u00f7",
         "by who;^", "by who; ^", "by who;^;", "by who;^1", "by who;^first", "by who;^within 5", "by who;^not kind 1",
         "by who;^spread what 2 within 5", "by who;^who 1", "by who;^by who", "by who;^kinds 1",
         "by who;kind^", "by who;kind ^8", "by who;kind ^who", "by who;kind ^;", "by who;kind ^-1", "by who;kind ^31",
