@@ -728,7 +728,7 @@ public final class LogHunt {
         /** By rank and ACT: the ACT before it in its latest ROW so far, NONE at the first, or UNREACHED. */
         private final int[][] before = new int[MOST_STEPS][MOST_ACTS];
         private final int[] fits = new int[MOST_STEPS];
-        /** By rank and value of by: the latest ACT reached, its TICK, and the latest TICK of a not ahead of the rank. */
+        /** By rank and value of by: the latest ACT reached, its TICK, and the latest TICK of a not ahead of it. */
         private final int[][] latestAct = new int[MOST_STEPS][VALUES];
         private final int[][] latestTick = new int[MOST_STEPS][VALUES];
         private final int[][] latestNot = new int[MOST_STEPS][VALUES];
@@ -786,7 +786,7 @@ public final class LogHunt {
                 Arrays.fill(latestNot[r], NONE);
                 Arrays.fill(nextNot[r], NEVER);
             }
-            for (int v = 0; v < VALUES; v++) {
+            for (int v = 0; v < VALUES && question.spreadField != NONE; v++) {
                 Arrays.fill(spreadTick[v], LONG_AGO);
             }
         }
