@@ -267,8 +267,8 @@ public final class CallsEdgeTest extends Edges {
 
     @Says("IllegalArgumentException: the text is wrong")
     private static void p08WrongText() {
-        LogHunt x = with(9, act(1, 1, 1, 1, 1), act(1, 2, 2, 2, 2));
-        String[] wrong = {"", " ", "by who", "by who;kind 8", "by who;kind 1 who 1 what 1 where 1 first;",
+        LogHunt x = with(9, act(1, 1, 1, 1, 1), act(1, 1, 1, 2, 2));
+        String[] wrong = {"", "by who", "by who;kind 8", "by who;kind 1 who 1 what 1 where 1;", "by who;kind 1 first;",
             "by what;kind 1;kind 1;kind 1;kind 1;kind 1;kind 1;kind 1", "by who;kind 1;spread what 2 within 5;",
             "by who;kind 1;not kind 1 within 9;kind 1"};
         for (String text : wrong) {
@@ -284,6 +284,11 @@ public final class CallsEdgeTest extends Edges {
                 due(NONE, () -> x.proof(before, 9, 0, 1));
             }
         }
+        LogHunt y = with(50, act(1, 1, 1, 1, 1), act(2, 1, 1, 1, 5));
+        Check.lay(y, "by who;kind 1;not kind 7 within 2;not kind 2 within 9 x");
+        due(ARGUMENT, () -> y.ask(0));
+        due(0, () -> Check.ask(y, "by who;kind 1;not kind 7 within 2"));
+        due(1, () -> y.finds(0, 50));
     }
 
     @Says("IllegalStateException: it asks about a FIELD that HUNTER may not")
@@ -494,6 +499,8 @@ public final class CallsEdgeTest extends Edges {
         due(250, y::cases);
         y.gap(101);
         due(1, y::cases);
+        y.gap(100);
+        due(250, y::cases);
     }
 
     @Says("How many FINDS are in one CASE with the FIND of a QUESTION that this ACT is, NOW (itself too)")

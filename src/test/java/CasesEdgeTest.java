@@ -106,17 +106,22 @@ public final class CasesEdgeTest extends Edges {
 
     @Says("their TICKS are apart by GAP at most")
     private static void apartByGap() {
-        for (int[] second : new int[][] {{1, 2}, {2, 1}}) {
+        for (int[] second : new int[][] {{0, 2}, {2, 0}}) {
             int[][] dues = {{0, 10, 1}, {0, 11, 2}, {1, 11, 1}, {1, 12, 2}, {100, 110, 1}, {100, 111, 2}, {100000, 100010, 1},
                 {100000, 100011, 2}};
             for (int[] d : dues) {
-                LogHunt x = with(200000, act(1, 1, 0, 1, 10), act(1, second[0], 0, second[1], d[1]));
+                LogHunt x = with(200000, act(1, 0, 0, 0, 10), act(1, second[0], 0, second[1], d[1]));
                 Check.ask(x, "by what;kind 1");
                 gap(x, d[0]);
                 due(d[2], x::cases);
                 // told in the other order they are as far apart
-                LogHunt y = with(200000, act(1, second[0], 0, second[1], d[1]), act(1, 1, 0, 1, 10));
+                LogHunt y = with(200000, act(1, second[0], 0, second[1], d[1]), act(1, 0, 0, 0, 10));
                 Check.ask(y, "by what;kind 1");
+                gap(y, d[0]);
+                due(d[2], y::cases);
+                // nothing of a wider GAP stays
+                gap(y, 100000);
+                due(d[1] > 100010 ? 2 : 1, y::cases);
                 gap(y, d[0]);
                 due(d[2], y::cases);
             }

@@ -9,22 +9,13 @@ import java.util.Comparator;
 import java.util.List;
 
 /** A test whose methods each hold one sentence of the document; a wrong answer is told with that sentence. */
-abstract class Edges {
+abstract class Edges extends Desks {
     /** The words of the document that a method holds. */
     @Retention(RetentionPolicy.RUNTIME)
     @Target(ElementType.METHOD)
     @interface Says {
         String value();
     }
-
-    static final String BOUNDS = "throws.IndexOutOfBoundsException";
-    static final String ARGUMENT = "throws.IllegalArgumentException";
-    static final String STATE = "throws.IllegalStateException";
-    static final String FULL = "throws.UnsupportedOperationException";
-    static final String NO_ELEMENT = "throws.NoSuchElementException";
-    static final int LOW = Integer.MIN_VALUE;
-    static final int HIGH = Integer.MAX_VALUE;
-    static final int NONE = -1;
 
     private static String sentence;
     private static int answers;
@@ -68,52 +59,10 @@ abstract class Edges {
         }
     }
 
-    static int[] act(int kind, int who, int what, int where, int tick) {
-        return new int[] {kind, who, what, where, tick};
-    }
-
-    static LogHunt at(int tick) {
-        LogHunt x = new LogHunt();
-        go(x, tick);
-        return x;
-    }
-
-    static void go(LogHunt x, int ticks) {
-        for (int left = ticks; left > 0; left -= 100000) {
-            x.ticks(Math.min(left, 100000));
-        }
-    }
-
-    static LogHunt with(int tick, int[]... acts) {
-        LogHunt x = at(tick);
-        tell(x, acts);
-        return x;
-    }
-
-    static void tell(LogHunt x, int[]... acts) {
-        for (int[] a : acts) {
-            x.act(a[0], a[1], a[2], a[3], a[4]);
-        }
-    }
-
     /** What finds() answers NOW to a text, with these ACTS alone, all told NOW. */
     static int finds(String text, int now, int[]... acts) {
         LogHunt x = with(now, acts);
         return x.finds(Check.ask(x, text), now);
-    }
-
-    static String may(LogHunt x, int hunter, int fields) {
-        return Check.answer(() -> {
-            x.may(hunter, fields);
-            return "may";
-        }).toString();
-    }
-
-    static String gap(LogHunt x, int n) {
-        return Check.answer(() -> {
-            x.gap(n);
-            return "gap";
-        }).toString();
     }
 
     /** Texts with a ^ ahead of the first wrong byte; those without one are right. */

@@ -57,12 +57,25 @@ public final class FindsEdgeTest extends Edges {
         x.act(1, 1, 1, 1, 10);
         x.ticks(1);
         tell(x, act(3, 1, 1, 1, 15), act(4, 1, 1, 1, 25), act(2, 1, 2, 1, 20));
-        int[][] dues = {{50, 0, 0, 1, 0}, {51, 1, 1, 1, 0}, {52, 2, 0, 0, 2}};
+        int[][] dues = {{50, 0, 0, 1, 0}, {51, 1, 1, 1, 0}, {52, 2, 0, 0, 2}, {50, 0, 0, 1, 0}, {51, 1, 1, 1, 0}};
         for (int[] d : dues) {
             due(d[1], () -> x.finds(row, d[0]));
             due(d[2], () -> x.finds(between, d[0]));
             due(d[3], () -> x.finds(behind, d[0]));
             due(d[4], () -> x.finds(spread, d[0]));
+        }
+        // of two told one tick apart, the second alone
+        String[] texts = {"kind 1;kind 2", "kind 2;not kind 3 within 5", "kind 2;spread what 2 within 9", "kind 2 where 9 first"};
+        int[][] late = {{1, 1, 1, 1, 10}, {3, 1, 1, 1, 25}, {2, 1, 2, 9, 12}, {2, 1, 1, 1, 10}};
+        int[][] counts = {{0, 1}, {1, 0}, {0, 1}, {1, 0}};
+        for (int i = 0; i < texts.length; i++) {
+            LogHunt y = with(50, act(2, 1, 1, 9, 20));
+            Check.ask(y, "by who;" + texts[i]);
+            y.ticks(1);
+            tell(y, late[i]);
+            due(counts[i][0], () -> y.finds(0, 50));
+            due(counts[i][1], () -> y.finds(0, 51));
+            due(counts[i][0], () -> y.finds(0, 50));
         }
     }
 
@@ -185,6 +198,13 @@ public final class FindsEdgeTest extends Edges {
         due(1, () -> finds(two, 50, end, act(4, 1, 0, 0, 20)));
         due(1, () -> finds(two, 50, end, act(3, 1, 0, 0, 19)));
         due(0, () -> finds(two, 50, end, act(3, 1, 0, 0, 15)));
+        String five = "by who;kind 1;not kind 3 within 5;not kind 4 within 5;not kind 5 within 5;not kind 6 within 5;not kind 7 within 5";
+        due(1, () -> finds(five, 50, end));
+        for (int kind = 3; kind < 8; kind++) {
+            int k = kind;
+            due(0, () -> finds(five, 50, end, act(k, 1, 0, 0, 15)));
+            due(1, () -> finds(five, 50, end, act(k, 1, 0, 0, 16)));
+        }
         // a FIND of the same KIND disturbs the one before it
         due(1, () -> finds("by who;kind 1;not kind 1 within 5", 50, end, act(1, 1, 0, 0, 15)));
         due(2, () -> finds("by who;kind 1;not kind 1 within 5", 50, end, act(1, 1, 0, 0, 16)));
@@ -287,6 +307,8 @@ public final class FindsEdgeTest extends Edges {
         for (int i = 0; i < 250; i++) most[i] = act(1, 1, 1, 1, i);
         due(250, () -> finds("by who;kind 1", 300, most));
         due(249, () -> finds("by who;kind 1;kind 1", 300, most));
+        due(250, () -> finds("by who;kind 1;not kind 2 within 1", 300, most));
+        due(1, () -> finds("by who;kind 1;not kind 1 within 1", 300, most));
     }
 
     @Says("FINDS lie by TICK, then by the ACT's number.")
@@ -300,6 +322,15 @@ public final class FindsEdgeTest extends Edges {
             int n = i;
             due(order[n], () -> x.found(q, 50, n));
             due(order[n], () -> x.found(behind, 50, n));
+        }
+        // they close up where one of them is none
+        x.act(2, 9, 0, 0, 31);
+        int[] fewer = {2, 4, 1, 3, NONE, NONE, NONE};
+        x.act(2, 5, 0, 0, 16);
+        for (int i = 0; i < order.length; i++) {
+            int n = i;
+            due(order[n], () -> x.found(q, 50, n));
+            due(fewer[n], () -> x.found(behind, 50, n));
         }
     }
 

@@ -1,13 +1,5 @@
 /** Each promise of the document by itself: ordinary calls, the edges that it names, and wrong calls. */
-public final class PromiseTest {
-    private static final String BOUNDS = "throws.IndexOutOfBoundsException";
-    private static final String ARGUMENT = "throws.IllegalArgumentException";
-    private static final String STATE = "throws.IllegalStateException";
-    private static final String FULL = "throws.UnsupportedOperationException";
-    private static final String NO_ELEMENT = "throws.NoSuchElementException";
-    private static final int LOW = Integer.MIN_VALUE;
-    private static final int HIGH = Integer.MAX_VALUE;
-
+public final class PromiseTest extends Desks {
     public static void main(String[] args) {
         newObject();
         feed();
@@ -43,19 +35,6 @@ public final class PromiseTest {
 
     private static void due(String what, Object want, Check.Call call) {
         Check.due(what, want, call);
-    }
-
-    private static LogHunt at(int tick) {
-        LogHunt x = new LogHunt();
-        for (int left = tick; left > 0; left -= 100000) x.ticks(Math.min(left, 100000));
-        return x;
-    }
-
-    /** kind, who, what, where, tick of each ACT. */
-    private static LogHunt with(int tick, int[][] acts) {
-        LogHunt x = at(tick);
-        for (int[] a : acts) x.act(a[0], a[1], a[2], a[3], a[4]);
-        return x;
     }
 
     private static void newObject() {

@@ -27,7 +27,7 @@ public final class TextEdgeTest extends Edges {
         texts(ONE, ONE + ";kind 2", ONE + ";spread what 2 within 5", ONE + ";kind 2;spread what 2 within 5",
             "^kind 1", "^;kind 1", "by who ^kind 1", "by who;^spread what 2 within 5;kind 1",
             ONE + ";spread what 2 within 5^;kind 2", ONE + ";spread what 2 within 5^;spread what 2 within 5",
-            ONE + " ^spread what 2 within 5", ONE + " ^kind 2", "by who ^what;kind 1", "by who;^;kind 1");
+            ONE + " ^spread what 2 within 5", ONE + " ^kind 2", "by who ^what;kind 1", "by who;^;kind 1", "by ^;kind 1");
     }
 
     @Says("with one STEP at least, 6 at most")
@@ -212,6 +212,18 @@ public final class TextEdgeTest extends Edges {
             ONE + " first ^x", ONE + ";^x", ONE + ";not ^x", ONE + ";not kind ^x", ONE + ";not kind 2 ^x",
             ONE + ";not kind 2 within ^x", ONE + ";kind 2 within 3 ^x", ONE + ";spread ^x", ONE + ";spread what ^x",
             ONE + ";spread what 2 ^x", ONE + ";spread what 2 within ^x", ONE + ";spread what 2 within 3 ^x");
+        String all = "by who;kind 1 who 1 what 2 where 3 first;not kind 2;kind 3 within 4;spread where 2 within 5";
+        text(all, NONE);
+        int begin = 0;
+        for (int at = 0; at < all.length(); at++) {
+            if (!Character.isLetter(all.charAt(at))) {
+                begin = at + 1;
+                continue;
+            }
+            text(all.substring(0, at) + "x" + all.substring(at + 1), begin);
+            text(all.substring(0, at) + "x" + all.substring(at), begin);
+            text(all.substring(0, at) + all.substring(at + 1), begin);
+        }
     }
 
     @Says("or comes a second time")
